@@ -56,8 +56,10 @@ public final class Promise4ReadTest {
         Checks.dueOrders("^O-7,-00008^F00003,02^;", "4 -7 -8 0 0 3 2 1 []");
         Checks.dueOrders("^O-0,0^F^;", "4 0 0 0 0 1 1 1 []");
         Checks.dueOrders("^D2,3,4,1^D,5^T^Xa^;", "0 0 0 0 0 0 5 1 [a]");
-        Checks.dueOrdersOf("^K,abc^L9,9^V^T^;^E", "0 0 0 0 0 0 1 1 [abc]");
-        Checks.dueOrdersOf("^S^F^;^Z^L9,9^U^E", "4 0 0 0 0 1 1 1 []");
+        Checks.dueOrdersOf("^K,abc^L9,9^V0^T^;^E", "0 0 0 0 0 0 1 1 [abc]");
+        Checks.dueOrdersOf("^K0,abc^L9,9^V^T^;^E", "0 0 0 0 0 0 1 1 [abc]");
+        Checks.dueOrdersOf("^S^F^;^Z^L9,9^U0^E", "4 0 0 0 0 1 1 1 []");
+        Checks.dueOrdersOf("^S0^F^;^Z^L9,9^U^E", "4 0 0 0 0 1 1 1 []");
     }
 
     private static void rowsStayFromReadingToReading() {

@@ -117,6 +117,7 @@ public final class Promise5FaultTest {
         fault("^L", 5);
         fault("^L5", 5);
         fault("^L5,", 5);
+        fault("^L,5", 5);
         for (int k = 0; k < 8; k++) {
             fault("^S" + k + "^R^Z^L9,9^U" + k + "^E", 0);
         }
@@ -213,6 +214,7 @@ public final class Promise5FaultTest {
         inLabel("^N^X 23456789012^;", 8);
         inLabel("^P^X0^;", 8);
         inLabel("^P^X0g^;", 8);
+        inLabel("^P^Xg0^;", 8);
         inLabel("^P^X0 ^;", 8);
         inLabel("^P^X0aF^;", 8);
         inLabel("^P16^X0a^;", 8);

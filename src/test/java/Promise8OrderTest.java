@@ -75,6 +75,9 @@ public final class Promise8OrderTest {
             "0 79 200 2 0 0 1 1 [abc]", "0 65 190 2 0 0 1 1 [d]");
         Checks.dueOrders("^D,,,3^O100,200^W6,10,1,7^Xabc_0Ad^;",
             "0 100 179 3 0 0 1 1 [abc]", "0 110 165 3 0 0 1 1 [d]");
+        Checks.dueOrders("^W6,,1,7^Xabc_0Ad^;", "0 21 0 0 0 0 1 1 [abc]", "0 35 0 0 0 0 1 1 [d]");
+        Checks.dueOrders("^W6,10,,7^Xabc_0Ad^;", "0 0 0 0 0 0 1 1 [abc]", "0 0 10 0 0 0 1 1 [d]");
+        Checks.dueOrders("^W6,10,1^Xabc_0Ad^;", "0 0 0 0 0 0 1 1 [abc]", "0 0 10 0 0 0 1 1 [d]");
         Checks.dueOrders("^W6,10,1,7^X_0A^;", "0 42 0 0 0 0 1 1 []", "0 42 10 0 0 0 1 1 []");
     }
 
