@@ -9,6 +9,7 @@ public final class AnyTextTest {
     };
 
     public static void main(String[] args) {
+        Checks.sentence("Terms, the last paragraph", "Methods throw what their comments name");
         Random random = new Random(20261115);
         LabelScript x = new LabelScript();
         for (int n = 0; n < 3000; n++) {

@@ -8,6 +8,7 @@ import java.util.TreeSet;
 /** The class has the face of the document and nothing else that others can see. */
 public final class FaceTest {
     public static void main(String[] args) {
+        Checks.sentence("The public face", "public final class LabelScript {");
         Set<String> seen = new TreeSet<>();
         for (Field field : LabelScript.class.getDeclaredFields()) {
             if (!Modifier.isPrivate(field.getModifiers())) {
