@@ -295,6 +295,7 @@ public final class LabelScript {
         return xOrY >= -FAR && xOrY <= FAR;
     }
 
+    /** Ten to n, for n up to nine; never 0, so that it may divide. */
     private static int tenTo(int n) {
         int power = 1;
         for (int i = 0; i < n && i < TAIL_MOST; i++) {
